@@ -83,7 +83,7 @@ public final class FingerSpans {
         if (!hasRoomFor(1) || versions[v].entries + versions[w].entries > MOST_ENTRIES) {
             return FULL;
         }
-        return keep(rules.join(versions[v], versions[w]));
+        return keep(rules.join(versions[v], rules.none, versions[w]));
     }
 
     public int split(int v, int p) {
@@ -118,7 +118,8 @@ public final class FingerSpans {
         }
         int p = firstPlace(versions[v], GREATEST_LOW, low);
         Halves halves = rules.halves(versions[v], p);
-        return keep(rules.join(halves.before, rules.front(new Item(low, high), halves.after)));
+        Tree after = rules.front(new Item(low, high), halves.after);
+        return keep(rules.join(halves.before, rules.none, after));
     }
 
     public int removeTop(int v) {
@@ -130,7 +131,7 @@ public final class FingerSpans {
         }
         long top = total(versions[v], GREATEST_HIGH);
         Cut cut = rules.cut(versions[v], firstPlace(versions[v], GREATEST_HIGH, top));
-        return keep(rules.join(cut.before, cut.after));
+        return keep(rules.join(cut.before, rules.none, cut.after));
     }
 
     // ---- calls that look at entries
@@ -320,7 +321,11 @@ public final class FingerSpans {
     /** Rows of items. No row is changed once it is part of a node or a tree. */
     private static final class Rows {
         private static int entriesIn(Item[] row) {
-            return entriesBefore(row, row.length);
+            int sum = 0;
+            for (Item item : row) {
+                sum += item.entries;
+            }
+            return sum;
         }
 
         private static int entriesBefore(Item[] row, int index) {
@@ -521,25 +526,14 @@ public final class FingerSpans {
         }
 
         private Tree open(Item[] left, Tree middle, Item[] right) {
+            if (left.length > 0 && right.length > 0) {
+                return new Tree(left, middle, right);
+            }
+            if (middle.isEmpty()) {
+                return line(left.length == 0 ? right : left);
+            }
             if (left.length == 0) {
-                return openLeft(middle, right);
-            }
-            if (right.length == 0) {
-                return openRight(left, middle);
-            }
-            return new Tree(left, middle, right);
-        }
-
-        private Tree openLeft(Tree middle, Item[] right) {
-            if (middle.isEmpty()) {
-                return line(right);
-            }
-            return new Tree(middle.first().parts, rest(middle), right);
-        }
-
-        private Tree openRight(Item[] left, Tree middle) {
-            if (middle.isEmpty()) {
-                return line(left);
+                return new Tree(middle.first().parts, rest(middle), right);
             }
             return new Tree(left, lead(middle), middle.last().parts);
         }
@@ -558,11 +552,7 @@ public final class FingerSpans {
             return open(t.left, t.middle, Rows.before(t.right, t.right.length - 1));
         }
 
-        private Tree join(Tree t, Tree u) {
-            return joinAround(t, none, u);
-        }
-
-        private Tree joinAround(Tree t, Item[] row, Tree u) {
+        private Tree join(Tree t, Item[] row, Tree u) {
             if (t.isEmpty()) {
                 return allFront(row, u);
             }
@@ -576,7 +566,7 @@ public final class FingerSpans {
                 return back(allBack(t, row), u.first());
             }
             Item[] between = groups(Rows.joined(Rows.joined(t.right, row), u.left));
-            return new Tree(t.left, joinAround(t.middle, between, u.middle), u.right);
+            return new Tree(t.left, join(t.middle, between, u.middle), u.right);
         }
 
         private Tree allFront(Item[] row, Tree u) {
@@ -611,23 +601,20 @@ public final class FingerSpans {
             if (!t.isDeep()) {
                 return new Cut(empty, t.first(), empty);
             }
-            if (t.holdsInMiddle(place)) {
-                return cutMiddle(t, place - t.middleStart());
+            if (place >= t.rightStart) {
+                int i = Rows.indexOf(t.right, place - t.rightStart);
+                Tree before = open(t.left, t.middle, Rows.before(t.right, i));
+                return new Cut(before, t.right[i], line(Rows.after(t.right, i)));
             }
-            if (place < t.rightStart) {
+            if (!t.holdsInMiddle(place)) {
                 int i = Rows.indexOf(t.left, place);
                 Tree after = open(Rows.after(t.left, i), t.middle, t.right);
                 return new Cut(line(Rows.before(t.left, i)), t.left[i], after);
             }
-            int i = Rows.indexOf(t.right, place - t.rightStart);
-            Tree before = open(t.left, t.middle, Rows.before(t.right, i));
-            return new Cut(before, t.right[i], line(Rows.after(t.right, i)));
-        }
-
-        private Cut cutMiddle(Tree t, int place) {
-            Cut inner = cut(t.middle, place);
+            int inMiddle = place - t.middleStart();
+            Cut inner = cut(t.middle, inMiddle);
             Item[] parts = inner.item.parts;
-            int i = Rows.indexOf(parts, place - inner.before.entries);
+            int i = Rows.indexOf(parts, inMiddle - inner.before.entries);
             Tree before = open(t.left, inner.before, Rows.before(parts, i));
             Tree after = open(Rows.after(parts, i), inner.after, t.right);
             return new Cut(before, parts[i], after);

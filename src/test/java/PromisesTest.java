@@ -52,6 +52,7 @@ public final class PromisesTest {
         shared();
         made();
         refusedCallsChangeNothing();
+        lastVersion();
         checks.finish();
     }
 
@@ -876,5 +877,26 @@ public final class PromisesTest {
         due("length(120)", x.length(120), BAD);
         dueText("the ranks", ranks(x, 20), ranks);
         dueText("the entries", lows(x, 10), "1 2 3 4 5 6 7 8 9 10");
+    }
+
+    // ---- version 119 has room in every call
+
+    private void lastVersion() {
+        begin("the last version");
+        due("pushFront", nearlyFull().pushFront(3, 0, 0), 119);
+        due("pushBack", nearlyFull().pushBack(3, 0, 0), 119);
+        due("popFront", nearlyFull().popFront(3), 119);
+        due("popBack", nearlyFull().popBack(3), 119);
+        due("concat", nearlyFull().concat(3, 3), 119);
+        due("replace", nearlyFull().replace(3, 1, 0, 0), 119);
+        due("insert", nearlyFull().insert(3, 2, 2), 119);
+        due("removeTop", nearlyFull().removeTop(3), 119);
+    }
+
+    private static FingerSpans nearlyFull() {
+        FingerSpans x = new FingerSpans();
+        backRun(x, 3);
+        fillVersions(x, 119);
+        return x;
     }
 }
