@@ -9,8 +9,12 @@ public final class FingerSpans {
     public static final int FULL = -2;
 
     private static final int MOST_VERSIONS = 120;
-    private static final int MOST_ENTRIES = 40;
     private static final int MOST_IN_DIGIT = 4;
+
+    // This limit also guards the depth of all that calls itself below, once for each DEEP tree on the
+    // way down and once for each node inside a node: a fifth DEEP tree would need 2 + 4 + 8 + 16 + 32
+    // entries, and the calls that could make more than 40 refuse it before they use a rule.
+    private static final int MOST_ENTRIES = 40;
 
     // A call makes only nodes of the versions it makes, each of two items or more, so fewer than
     // those versions have entries; the one call that makes two versions makes no node.
@@ -463,11 +467,7 @@ public final class FingerSpans {
         }
     }
 
-    /**
-     * The rules of the document. They call themselves once for each DEEP tree on the way down, and
-     * those are four at most: a fifth one would need 2 + 4 + 8 + 16 + 32 entries, and the calls
-     * above refuse a version of more than 40 before a rule is used.
-     */
+    /** The rules of the document, and the number of nodes that they have made. */
     private static final class Rules {
         private final Item[] none = new Item[0];
         private final Tree empty = new Tree(none, null, none);
