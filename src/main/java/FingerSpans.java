@@ -173,6 +173,7 @@ public final class FingerSpans {
         Tree tree = versions[v];
         for (int p = Math.max(from, 0); p < tree.entries; p++) {
             Item entry = tree.entryAt(p);
+            // Not swapped when since > to: then only an entry that holds both of them will do.
             if (entry.low <= to && entry.high >= since) {
                 return p;
             }
